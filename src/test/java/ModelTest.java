@@ -1,0 +1,176 @@
+import java.util.List;
+import java.util.Random;
+
+/** Runs of calls by lot, each answered by the class and by the model; wild arguments among them. */
+public final class ModelTest {
+    private static final int[] WILD = {Integer.MIN_VALUE, Integer.MIN_VALUE + 1, Integer.MAX_VALUE, -1, WaterButts.NONE, WaterButts.BAD,
+        1000, 10000, 99999, 100000, -99999, -100000, 65536, 32768, -32769, 1 << 30};
+    private static final String[] NAMES = {"", "", "butt", "told", "catches", "as", "turns", "set", "bed", "bedTold", "wants", "deal", "seed",
+        "rule", "days", "gallons", "pourDown", "behind", "dryBy", "larger", "leave", "spares", "taps", "gauged", "fine", "feed", "trim",
+        "text", "textTold", "why", "sheet", "mark", "pour", "reads", "copy", "lay", "ask", "item", "rest", "tell", "check", "keep", "back",
+        "count"};
+    /** For each promise how large the three first arguments ordinarily are (0 .. so much). */
+    private static final int[][] ORDINARY = {{}, {}, {5, 300, 30}, {4, 6}, {4, 9}, {4, 5}, {4, 5}, {4, 3, 300}, {40}, {4, 2}, {4, 40}, {4},
+        {99999}, {3, 100}, {30}, {6}, {9}, {100, 3}, {}, {4, 2000, 40}, {60, 1}, {4, 60}, {60}, {3, 4, 1}, {}, {}, {96}, {}, {14, 1}, {2},
+        {3, 1, 24}, {3, 10, 200}, {3}, {3}, {3, 8, 3, 8, 8}, {4, 3, 4}, {4, 5}, {4, 8}, {4, 20}, {200}, {30}, {}, {}, {10}};
+
+    private static final Due due = new Due();
+
+    public static void main(String[] args) {
+        long first = args.length > 0 ? Long.parseLong(args[0]) : 1;
+        int runs = args.length > 1 ? Integer.parseInt(args[1]) : 1500;
+        for (int i = 0; i < runs; i++) {
+            oneRun(first + i);
+        }
+        due.end();
+    }
+
+    private static void oneRun(long number) {
+        due.part("run " + number);
+        Random lot = new Random(number * 7919);
+        WaterButts x = new WaterButts();
+        Model m = new Model();
+        int wildness = lot.nextInt(4) == 0 ? 4 : 40;
+        int calls = 60 + lot.nextInt(450);
+        int texty = lot.nextInt(3);
+        for (int i = 0; i < calls; i++) {
+            int kind = lot.nextInt(30);
+            if (kind < texty) {
+                i += tellText(lot, x, m);
+            } else if (kind == 29) {
+                i += checkRight(lot, x, m);
+            } else if (kind == 28) {
+                fillSheet(lot, x, m);
+                i += 4;
+            } else {
+                oneCall(lot, x, m, wildness);
+            }
+        }
+    }
+
+    private static void oneCall(Random lot, WaterButts x, Model m, int wildness) {
+        int promise = 2 + lot.nextInt(42);
+        if (promise == 19 && lot.nextInt(3) != 0) {
+            promise = 16;
+        }
+        int[] v = new int[5];
+        int[] most = ORDINARY[promise];
+        for (int i = 0; i < 5; i++) {
+            v[i] = i < most.length ? lot.nextInt(most[i] + 1) : lot.nextInt();
+            if (lot.nextInt(wildness) == 0) {
+                v[i] = lot.nextInt(3) == 0 ? WILD[lot.nextInt(WILD.length)] : -1 + lot.nextInt((i < most.length ? most[i] : 50) + 4);
+            }
+        }
+        both(x, m, promise, v);
+    }
+
+    private static int both(WaterButts x, Model m, int promise, int... args) {
+        int[] v = java.util.Arrays.copyOf(args, 5);
+        int got;
+        try {
+            got = call(x, promise, v[0], v[1], v[2], v[3], v[4]);
+        } catch (RuntimeException e) {
+            e.printStackTrace(System.out);
+            got = 1234567890;
+        }
+        due.is(NAMES[promise] + java.util.Arrays.toString(v), got, m.answer(promise, v[0], v[1], v[2], v[3], v[4]));
+        return got;
+    }
+
+    private static int tellText(Random lot, WaterButts x, Model m) {
+        both(x, m, 26, 0);
+        String text = TextsByLot.text(lot);
+        int calls = 2;
+        for (int i = 0; i < text.length(); i += 12) {
+            int[] three = new int[3];
+            for (int k = 0; k < 12; k++) {
+                three[k / 4] = three[k / 4] << 8 | (i + k < text.length() ? text.charAt(i + k) : lot.nextInt(256));
+            }
+            both(x, m, 25, three);
+            calls++;
+        }
+        both(x, m, 26, text.length());
+        both(x, m, 27);
+        return calls;
+    }
+
+    /** A row that is right, or nearly. */
+    private static int checkRight(Random lot, WaterButts x, Model m) {
+        int n = 1 + lot.nextInt(6);
+        List<Integer> row = m.rightRow(n);
+        int spoilt = lot.nextInt(3) == 0 ? lot.nextInt(row.size() + 1) : -1;
+        for (int i = 0; i < row.size(); i++) {
+            both(x, m, 39, row.get(i) + (i == spoilt ? 1 : 0));
+        }
+        if (lot.nextInt(5) == 0) {
+            both(x, m, 39, 0);
+        }
+        both(x, m, 40, n);
+        return row.size() + 2;
+    }
+
+    /** A sheet near what the butts hold, so that reads and gauged have something to find. */
+    private static void fillSheet(Random lot, WaterButts x, Model m) {
+        int sheet = lot.nextInt(4);
+        int sort = lot.nextInt(2);
+        int size = lot.nextInt(9);
+        both(x, m, 30, sheet, sort, size);
+        int butt = lot.nextInt(Math.max(1, m.buttCount()));
+        boolean oneButt = lot.nextBoolean();
+        for (int i = 0; i < size; i++) {
+            int v = m.holdsOf(oneButt ? butt : i) + (lot.nextInt(4) == 0 ? lot.nextInt(60) - 30 : 0);
+            both(x, m, 31, sheet, i, sort == 1 && lot.nextInt(5) == 0 ? WaterButts.NONE : v);
+        }
+        both(x, m, 33, sheet);
+        both(x, m, 23, sheet, butt, 0);
+        both(x, m, 23, sheet, butt, 1);
+        both(x, m, 32, sheet);
+    }
+
+    private static int call(WaterButts x, int promise, int a, int b, int c, int d, int e) {
+        switch (promise) {
+            case 2: return x.butt(a, b, c);
+            case 3: return x.told(a, b);
+            case 4: return x.catches(a, b);
+            case 5: return x.as(a, b);
+            case 6: return x.turns(a, b);
+            case 7: return x.set(a, b, c);
+            case 8: return x.bed(a);
+            case 9: return x.bedTold(a, b);
+            case 10: return x.wants(a, b);
+            case 11: return x.deal(a);
+            case 12: return x.seed(a);
+            case 13: return x.rule(a, b);
+            case 14: return x.days(a);
+            case 15: return x.gallons(a);
+            case 16: return x.pourDown(a);
+            case 17: return x.behind(a, b);
+            case 18: return x.dryBy();
+            case 19: return x.larger(a, b, c);
+            case 20: return x.leave(a, b);
+            case 21: return x.spares(a, b);
+            case 22: return x.taps(a);
+            case 23: return x.gauged(a, b, c);
+            case 24: return x.fine();
+            case 25: return x.feed(a, b, c);
+            case 26: return x.trim(a);
+            case 27: return x.text();
+            case 28: return x.textTold(a, b);
+            case 29: return x.why(a);
+            case 30: return x.sheet(a, b, c);
+            case 31: return x.mark(a, b, c);
+            case 32: return x.pour(a);
+            case 33: return x.reads(a);
+            case 34: return x.copy(a, b, c, d, e);
+            case 35: return x.lay(a, b, c);
+            case 36: return x.ask(a, b);
+            case 37: return x.item(a, b);
+            case 38: return x.rest(a, b);
+            case 39: return x.tell(a);
+            case 40: return x.check(a);
+            case 41: return x.keep();
+            case 42: return x.back();
+            default: return x.count(a);
+        }
+    }
+}
