@@ -545,6 +545,8 @@ public final class PromiseTest {
         due.is("leave(1, 1), with what is lacked already", x.leave(1, 1),
             x.bedTold(0, 2) + x.bedTold(1, 2) + 16);
         due.is("bedTold(2, 0)", x.bedTold(2, 0), 8);
+        x.wants(0, 99);
+        due.is("leave(1, 0), the first", x.leave(1, 0), 0);
 
         fresh("promise 21");
         dryWeather();
@@ -581,6 +583,47 @@ public final class PromiseTest {
         due.is("taps(60)", x.taps(60), 2);
         due.is("taps(1)", x.taps(1), 1);
         due.is("told(1, 3)", x.told(1, 3), 50);
+        x.set(0, 3, 10);
+        x.set(0, 2, 1);
+        x.set(1, 3, 1);
+        x.set(1, 2, 1);
+        x.set(2, 2, 0);
+        due.is("taps(2), down to the last gallon", x.taps(2), 0);
+        x.set(0, 3, 0);
+        due.is("taps(2), down to the last gallon", x.taps(2), 1);
+        fullGarden();
+    }
+
+    /** As many butts and beds as there may be, so that every row is used to its end. */
+    private static void fullGarden() {
+        fresh("promises 14 to 23, 32 and 41, a full garden");
+        dryWeather();
+        for (int i = 0; i < 8; i++) {
+            x.butt(1, 100, 0);
+            x.set(i, 2, 10);
+            x.bed(i + 3);
+        }
+        // 52 are wanted a day, 80 are there.
+        due.is("days(1)", x.days(1), 0);
+        due.is("gallons(4)", x.gallons(4), 28);
+        due.is("gallons(5)", x.gallons(5), 52);
+        due.is("behind(1, 1)", x.behind(1, 1), 24);
+        due.is("leave(1, 0)", x.leave(1, 0), 7);
+        due.is("leave(1, 1)", x.leave(1, 1), 14);
+        due.is("dryBy()", x.dryBy(), 1);
+        due.is("taps(1)", x.taps(1), 0);
+        due.is("spares(7, 1)", x.spares(7, 1), 10);
+        due.is("larger(7, 23, 1)", x.larger(7, 23, 1), NONE);
+        due.is("larger(7, 24, 1)", x.larger(7, 24, 1), 100);
+        x.sheet(0, 0, 24);
+        due.is("gauged(0, 7, 0)", x.gauged(0, 7, 0), 0);
+        due.is("reads(0)", x.reads(0), 5);
+        due.is("pourDown(9)", x.pourDown(9), 0);
+        due.is("gallons(0)", x.gallons(0), 8 * 45);
+        due.is("keep()", x.keep(), 8);
+        due.is("pour(0)", x.pour(0), 8);
+        due.is("back()", x.back(), 8);
+        due.is("bedTold(7, 0)", x.bedTold(7, 0), 10);
     }
 
     private static void gauges() {
@@ -741,6 +784,10 @@ public final class PromiseTest {
         fault("dries h", 0);
         fault("  wet h", 2);
         fault("catc h", 0);
+        fault("batch r", 0);
+        fault("catcg r", 0);
+        fault("ary h", 0);
+        fault("find b", 0);
         fault("catchr", 0);
         fault("Catch r", 0);
         fault("5", 0);
@@ -819,6 +866,10 @@ public final class PromiseTest {
         due.is("textTold(0, 2)", x.textTold(0, 2), BAD);
         due.is("textTold(0, -1)", x.textTold(0, -1), BAD);
 
+        Due.text(x, "dry 1+2+3 4");
+        Due.text(x, "dry 1");
+        due.is("textTold(3, 1), behind a fault", x.textTold(3, 1), 1);
+
         fresh("promise 29");
         Due.text(x, "fine 1");
         Due.text(x, "fine 2");
@@ -844,9 +895,11 @@ public final class PromiseTest {
         due.is("sheet(-1, 0, 1)", x.sheet(-1, 0, 1), BAD);
         due.is("sheet(0, 2, -1)", x.sheet(0, 2, -1), BAD);
         due.is("sheet(0, -2, 1)", x.sheet(0, -2, 1), BAD);
+        due.is("mark(0, 0, 5)", x.mark(0, 0, 5), 1);
         due.is("mark(0, 23, 5)", x.mark(0, 23, 5), 1);
         due.is("sheet(0, 0, 24)", x.sheet(0, 0, 24), 24);
         x.lay(0, 2, 0);
+        due.is("item(0, 0), all 0", x.item(0, 0), 0);
         due.is("item(0, 23), all 0", x.item(0, 23), 0);
         due.is("sheet(0, -1, 99)", x.sheet(0, -1, 99), 0);
         due.is("reads(0)", x.reads(0), NOTHING);
@@ -1083,6 +1136,8 @@ public final class PromiseTest {
         checkRow(6, 3, 15, 0, 5, 0, 0, 4);
         checkRow(1, 3, 14, 0, 5, 0, 0, 5);
         checkRow(2, 3, 15, 1, 5, 0, 0, 5);
+        checkRow(3, 3, 15, 0, 6, 0, 0, 5);
+        checkRow(4, 3, 15, 0, 5, 1, 0, 5);
         checkRow(7, 3, 15, 0, 5, 0, 0, 5, 0);
         checkRow(3, 1, 15, 0, 5, 0);
         due.is("told(0, 2)", x.told(0, 2), 3);
@@ -1156,6 +1211,14 @@ public final class PromiseTest {
         x.butt(0, 60, 4);
         x.butt(2, 80, 5);
         due.is("keep()", x.keep(), 2);
+        x.rule(3, 1);
+        x.back();
+        due.is("count(6), dry yesterday", x.count(6), 0);
+        x.rule(3, 1);
+        x.keep();
+        x.rule(3, 0);
+        x.back();
+        due.is("count(6), wet yesterday", x.count(6), 1);
 
         fresh("promise 42");
         due.is("back(), no image", x.back(), NO);
@@ -1177,7 +1240,10 @@ public final class PromiseTest {
             x.set(0, 1, 77);
             x.turns(0, 3);
             x.deal(3);
-            x.bed(2);
+            x.set(2, 1, 150);
+            x.set(2, 2, 150);
+            x.bed(98);
+            x.bed(99);
             x.wants(0, 50);
             x.seed(9);
             x.trim(0);
@@ -1189,6 +1255,9 @@ public final class PromiseTest {
             x.rule(0, 1);
             x.rule(1, 1);
             x.rule(2, 0);
+            x.days(5);
+            due.is("bedTold(2, 2), lacked, ahead of back()", x.bedTold(2, 2) > 0 ? 1 : 0, 1);
+            x.set(2, 2, 50);
             due.is("back()", x.back(), 2);
             int[] again = everything();
             for (int i = 0; i < told.length; i++) {
@@ -1204,6 +1273,9 @@ public final class PromiseTest {
         due.is("bed(9), where one was", x.bed(9), 1);
         due.is("bedTold(1, 1), where one was", x.bedTold(1, 1), 0);
         due.is("bedTold(1, 2), where one was", x.bedTold(1, 2), 0);
+        due.is("bed(9), where one was", x.bed(9), 2);
+        due.is("bedTold(2, 1), where one was", x.bedTold(2, 1), 0);
+        due.is("bedTold(2, 2), where one was", x.bedTold(2, 2), 0);
         x.trim(0);
         due.is("text(), where one was", Due.text(x, "fine 8"), 1);
         due.is("fine()", x.fine(), 8);
