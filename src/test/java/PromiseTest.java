@@ -869,6 +869,9 @@ public final class PromiseTest {
         Due.text(x, "dry 1+2+3 4");
         Due.text(x, "dry 1");
         due.is("textTold(3, 1), behind a fault", x.textTold(3, 1), 1);
+        Due.text(x, "fine !1 2");
+        Due.text(x, "fine 5");
+        due.is("fine(), behind a fault", x.fine(), 5);
 
         fresh("promise 29");
         Due.text(x, "fine 1");
