@@ -1,5 +1,8 @@
 /** What the tests share: counting answers that are not due, texts for the tape, draws worked out anew. */
 final class Due {
+    /** Times 1103515245 it is 1, as ints go. */
+    private static final int INVERSE = (int) 4005161829L;
+
     private int wrong;
     private int asked;
     private String part = "";
@@ -38,12 +41,17 @@ final class Due {
         return x.text();
     }
 
-    private static int four(byte[] bytes, int from) {
+    static int four(byte[] bytes, int from) {
         int v = 0;
         for (int i = from; i < from + 4; i++) {
             v = v << 8 | (i < bytes.length ? bytes[i] & 255 : 'x');
         }
         return v;
+    }
+
+    /** What z was ahead of a draw that makes it this. */
+    static int lastZ(int z) {
+        return (z - 12345) * INVERSE;
     }
 
     static int nextZ(int z) {

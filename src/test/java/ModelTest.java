@@ -5,10 +5,6 @@ import java.util.Random;
 public final class ModelTest {
     private static final int[] WILD = {Integer.MIN_VALUE, Integer.MIN_VALUE + 1, Integer.MAX_VALUE, -1, WaterButts.NONE, WaterButts.BAD,
         1000, 10000, 99999, 100000, -99999, -100000, 65536, 32768, -32769, 1 << 30};
-    private static final String[] NAMES = {"", "", "butt", "told", "catches", "as", "turns", "set", "bed", "bedTold", "wants", "deal", "seed",
-        "rule", "days", "gallons", "pourDown", "behind", "dryBy", "larger", "leave", "spares", "taps", "gauged", "fine", "feed", "trim",
-        "text", "textTold", "why", "sheet", "mark", "pour", "reads", "copy", "lay", "ask", "item", "rest", "tell", "check", "keep", "back",
-        "count"};
     /** For each promise how large the three first arguments ordinarily are (0 .. so much). */
     private static final int[][] ORDINARY = {{}, {}, {5, 300, 30}, {4, 6}, {4, 9}, {4, 5}, {4, 5}, {4, 3, 300}, {40}, {4, 2}, {4, 40}, {4},
         {99999}, {3, 100}, {30}, {6}, {9}, {100, 3}, {}, {4, 2000, 40}, {60, 1}, {4, 60}, {60}, {3, 4, 1}, {}, {}, {96}, {}, {14, 1}, {2},
@@ -31,9 +27,9 @@ public final class ModelTest {
         WaterButts x = new WaterButts();
         Model m = new Model();
         int wildness = lot.nextInt(4) == 0 ? 4 : 40;
-        int calls = 60 + lot.nextInt(450);
+        int calls = 60 + lot.nextInt(430);
         int texty = lot.nextInt(3);
-        for (int i = 0; i < calls; i++) {
+        for (int i = start(lot, x, m); i < calls; i++) {
             int kind = lot.nextInt(30);
             if (kind < texty) {
                 i += tellText(lot, x, m);
@@ -46,6 +42,32 @@ public final class ModelTest {
                 oneCall(lot, x, m, wildness);
             }
         }
+    }
+
+    /** Most runs start from a new object, some late, some with as much as there may be: how many calls that took. */
+    private static int start(Random lot, WaterButts x, Model m) {
+        int way = lot.nextInt(12);
+        if (way == 0) {
+            for (int i = 0; i < 99; i++) {
+                both(x, m, 14, 100);
+            }
+            both(x, m, 14, 60 + lot.nextInt(41));
+            return 100;
+        }
+        if (way > 2) {
+            return 0;
+        }
+        both(x, m, 12, lot.nextInt());
+        both(x, m, 11, 8);
+        for (int i = 0; i < 8; i++) {
+            both(x, m, 8, lot.nextInt(way == 1 ? 10 : 100));
+            both(x, m, 7, i, 2, lot.nextInt(200));
+        }
+        int calls = 18;
+        for (int i = 0; way == 2 && i < 16; i++) {
+            calls += tellText(lot, x, m) + 1;
+        }
+        return calls;
     }
 
     private static void oneCall(Random lot, WaterButts x, Model m, int wildness) {
@@ -68,12 +90,12 @@ public final class ModelTest {
         int[] v = java.util.Arrays.copyOf(args, 5);
         int got;
         try {
-            got = call(x, promise, v[0], v[1], v[2], v[3], v[4]);
+            got = Calls.call(x, promise, v);
         } catch (RuntimeException e) {
             e.printStackTrace(System.out);
             got = 1234567890;
         }
-        due.is(NAMES[promise] + java.util.Arrays.toString(v), got, m.answer(promise, v[0], v[1], v[2], v[3], v[4]));
+        due.is(Calls.NAMES[promise] + java.util.Arrays.toString(v), got, m.answer(promise, v[0], v[1], v[2], v[3], v[4]));
         return got;
     }
 
@@ -125,52 +147,5 @@ public final class ModelTest {
         both(x, m, 23, sheet, butt, 0);
         both(x, m, 23, sheet, butt, 1);
         both(x, m, 32, sheet);
-    }
-
-    private static int call(WaterButts x, int promise, int a, int b, int c, int d, int e) {
-        switch (promise) {
-            case 2: return x.butt(a, b, c);
-            case 3: return x.told(a, b);
-            case 4: return x.catches(a, b);
-            case 5: return x.as(a, b);
-            case 6: return x.turns(a, b);
-            case 7: return x.set(a, b, c);
-            case 8: return x.bed(a);
-            case 9: return x.bedTold(a, b);
-            case 10: return x.wants(a, b);
-            case 11: return x.deal(a);
-            case 12: return x.seed(a);
-            case 13: return x.rule(a, b);
-            case 14: return x.days(a);
-            case 15: return x.gallons(a);
-            case 16: return x.pourDown(a);
-            case 17: return x.behind(a, b);
-            case 18: return x.dryBy();
-            case 19: return x.larger(a, b, c);
-            case 20: return x.leave(a, b);
-            case 21: return x.spares(a, b);
-            case 22: return x.taps(a);
-            case 23: return x.gauged(a, b, c);
-            case 24: return x.fine();
-            case 25: return x.feed(a, b, c);
-            case 26: return x.trim(a);
-            case 27: return x.text();
-            case 28: return x.textTold(a, b);
-            case 29: return x.why(a);
-            case 30: return x.sheet(a, b, c);
-            case 31: return x.mark(a, b, c);
-            case 32: return x.pour(a);
-            case 33: return x.reads(a);
-            case 34: return x.copy(a, b, c, d, e);
-            case 35: return x.lay(a, b, c);
-            case 36: return x.ask(a, b);
-            case 37: return x.item(a, b);
-            case 38: return x.rest(a, b);
-            case 39: return x.tell(a);
-            case 40: return x.check(a);
-            case 41: return x.keep();
-            case 42: return x.back();
-            default: return x.count(a);
-        }
     }
 }
