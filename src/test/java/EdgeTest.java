@@ -456,6 +456,8 @@ public final class EdgeTest {
         s.with("bed(5)").tells(0, "leave(1, 0)").tells(5, "leave(1, 1)").gives(1, "wants(1, 6); leave(1, 0)").gives(0, "wants(0, 6); leave(1, 0)");
         // With 9 gallons for 5, 5 and 9: without the last 1 is lacked, without one of the others 5.
         s.gives(2, "butt(1, 9, 0); set(0, 2, 9); bed(9); leave(1, 0)").gives(1, "butt(1, 9, 0); set(0, 2, 9); bed(9); leave(1, 1)");
+        // What the first one does not draw is left for the others.
+        s.gives(0, "butt(1, 9, 0); set(0, 2, 5); leave(1, 0)", "butt(1, 9, 0); set(0, 2, 5); leave(1, 1)").gives(1, "butt(1, 9, 0); set(0, 2, 4); leave(1, 1)");
         s.gives(7, "bed(5); bed(5); bed(5); bed(5); bed(5); bed(6); leave(1, 0)").gives(0, "bed(5); bed(5); bed(5); bed(5); bed(5); bed(5); leave(1, 0)");
     }
 
@@ -482,6 +484,8 @@ public final class EdgeTest {
         s = Gardens.dry(due).with(8, "butt(1, 9, 9)").with("bed(99); set(6, 2, 3); set(7, 2, 3)").tells(6, "taps(1)");
         s.gives(0, "set(0, 2, 3); taps(1)", "set(0, 2, 9); taps(1)", "set(0, 2, 4); set(1, 2, 4); taps(1)").gives(1, "set(0, 2, 1); set(1, 2, 4); taps(1)", "set(1, 2, 3); taps(1)");
         s.gives(1, "set(0, 2, 2); set(0, 3, 1); set(1, 2, 4); set(6, 2, 0); set(7, 2, 0); taps(1)").gives(0, "set(0, 2, 9); set(0, 3, 5); set(6, 2, 0); set(7, 2, 4); taps(1)");
+        s.gives(1, "set(0, 2, 3); set(1, 2, 4); taps(1)").gives(0, "set(0, 2, 4); set(1, 2, 3); taps(1)");
+        s.gives(6, "set(6, 2, 1); set(7, 2, 0); taps(1)").gives(7, "set(6, 2, 0); set(7, 2, 1); taps(1)");
         s.gives(7, "set(7, 2, 4); taps(1)").gives(6, "set(6, 2, 4); taps(1)").gives(0, "set(6, 2, 0); set(7, 2, 0); taps(1)");
     }
 

@@ -354,6 +354,7 @@ public final class EdgeTextsTest {
         due.part("promise 28, behind a fault");
         fresh().tape("dry h+h+h+").does(-110, "text()").tape("dry h").gives(1, "text(); textTold(0, 1)").gives(1, "text(); textTold(0, 0)");
         fresh().tape("fine 5+!4 4").does(-110, "text()").tape("fine 7").gives(7, "text(); fine()");
+        fresh().tape("fine !4 4").does(-108, "text()").tape("fine 7").gives(7, "text(); fine()");
         fresh().with("keep()").text("dry h+h").with("back()").tape("dry 7").gives(1, "text(); textTold(0, 1)");
         due.part("promise 28, none");
         fresh().tells(BAD, "textTold(0, 0)", "textTold(0, 1)", "textTold(-1, 0)").tape("fine 1+").gives(BAD, "text(); textTold(0, 0)");

@@ -11,6 +11,8 @@ public final class ModelTest {
         {3, 1, 24}, {3, 10, 200}, {3}, {3}, {3, 8, 3, 8, 8}, {4, 3, 4}, {4, 5}, {4, 8}, {4, 20}, {200}, {30}, {}, {}, {10}};
 
     private static final Due due = new Due();
+    /** How many calls the run has made: an object is used for 512 of them. */
+    private static int made;
 
     public static void main(String[] args) {
         long first = args.length > 0 ? Long.parseLong(args[0]) : 1;
@@ -29,33 +31,34 @@ public final class ModelTest {
         int wildness = lot.nextInt(4) == 0 ? 4 : 40;
         int calls = 60 + lot.nextInt(430);
         int texty = lot.nextInt(3);
-        for (int i = start(lot, x, m); i < calls; i++) {
+        made = 0;
+        start(lot, x, m);
+        while (made < calls) {
             int kind = lot.nextInt(30);
             if (kind < texty) {
-                i += tellText(lot, x, m);
+                tellText(lot, x, m);
             } else if (kind == 29) {
-                i += checkRight(lot, x, m);
+                checkRight(lot, x, m);
             } else if (kind == 28) {
                 fillSheet(lot, x, m);
-                i += 4;
             } else {
                 oneCall(lot, x, m, wildness);
             }
         }
+        due.is("at most 512 calls", made > 512 ? 1 : 0, 0);
     }
 
-    /** Most runs start from a new object, some late, some with as much as there may be: how many calls that took. */
-    private static int start(Random lot, WaterButts x, Model m) {
+    /** Most runs start from a new object, some late, some with as much as there may be. */
+    private static void start(Random lot, WaterButts x, Model m) {
         int way = lot.nextInt(12);
         if (way == 0) {
             for (int i = 0; i < 99; i++) {
                 both(x, m, 14, 100);
             }
             both(x, m, 14, 60 + lot.nextInt(41));
-            return 100;
         }
-        if (way > 2) {
-            return 0;
+        if (way == 0 || way > 2) {
+            return;
         }
         both(x, m, 12, lot.nextInt());
         both(x, m, 11, 8);
@@ -63,11 +66,9 @@ public final class ModelTest {
             both(x, m, 8, lot.nextInt(way == 1 ? 10 : 100));
             both(x, m, 7, i, 2, lot.nextInt(200));
         }
-        int calls = 18;
         for (int i = 0; way == 2 && i < 16; i++) {
-            calls += tellText(lot, x, m) + 1;
+            tellText(lot, x, m);
         }
-        return calls;
     }
 
     private static void oneCall(Random lot, WaterButts x, Model m, int wildness) {
@@ -87,6 +88,7 @@ public final class ModelTest {
     }
 
     private static int both(WaterButts x, Model m, int promise, int... args) {
+        made++;
         int[] v = java.util.Arrays.copyOf(args, 5);
         int got;
         try {
@@ -99,25 +101,22 @@ public final class ModelTest {
         return got;
     }
 
-    private static int tellText(Random lot, WaterButts x, Model m) {
+    private static void tellText(Random lot, WaterButts x, Model m) {
         both(x, m, 26, 0);
         String text = TextsByLot.text(lot);
-        int calls = 2;
         for (int i = 0; i < text.length(); i += 12) {
             int[] three = new int[3];
             for (int k = 0; k < 12; k++) {
                 three[k / 4] = three[k / 4] << 8 | (i + k < text.length() ? text.charAt(i + k) : lot.nextInt(256));
             }
             both(x, m, 25, three);
-            calls++;
         }
         both(x, m, 26, text.length());
         both(x, m, 27);
-        return calls;
     }
 
     /** A row that is right, or nearly. */
-    private static int checkRight(Random lot, WaterButts x, Model m) {
+    private static void checkRight(Random lot, WaterButts x, Model m) {
         int n = 1 + lot.nextInt(6);
         List<Integer> row = m.rightRow(n);
         int spoilt = lot.nextInt(3) == 0 ? lot.nextInt(row.size() + 1) : -1;
@@ -128,7 +127,6 @@ public final class ModelTest {
             both(x, m, 39, 0);
         }
         both(x, m, 40, n);
-        return row.size() + 2;
     }
 
     /** A sheet near what the butts hold, so that reads and gauged have something to find. */
