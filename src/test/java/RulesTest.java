@@ -7,16 +7,65 @@ import java.lang.reflect.Modifier;
 import java.nio.file.Files;
 import java.nio.file.Path;
 import java.util.Arrays;
+import java.util.List;
 import java.util.Map;
 import java.util.Set;
 import java.util.TreeMap;
 import java.util.TreeSet;
+import java.util.regex.Matcher;
+import java.util.regex.Pattern;
 
 /** The public face, and those rules of LANGUAGE.md that can be looked at from outside. */
 public final class RulesTest {
-    private static final String FACE = "butt3 told2 catches2 as2 turns2 set3 bed1 bedTold2 wants2 deal1 seed1 rule2 days1 gallons1 "
-        + "pourDown1 behind2 dryBy0 larger3 leave2 spares2 taps1 gauged3 fine0 feed3 trim1 text0 textTold2 why1 sheet3 mark3 pour1 "
-        + "reads1 copy5 lay3 ask2 item2 rest2 tell1 check1 keep0 back0 count1";
+    /** As it stands in the document. */
+    private static final String FACE = """
+        public final class WaterButts {
+            public static final int BAD = -1000000001, NO = -1000000002, FULL = -1000000003, NONE = -1000000005, NOTHING = -1000000011, KIND = -1000000012, INDEX = -1000000013, SIZE = -1000000014;
+            public WaterButts();
+            public int butt(int kind, int room, int tap);
+            public int told(int butt, int what);
+            public int catches(int butt, int r);
+            public int as(int butt, int kind);
+            public int turns(int butt, int kind);
+            public int set(int butt, int what, int v);
+            public int bed(int wants);
+            public int bedTold(int bed, int what);
+            public int wants(int bed, int v);
+            public int deal(int n);
+            public int seed(int v);
+            public int rule(int what, int v);
+            public int days(int n);
+            public int gallons(int what);
+            public int pourDown(int r);
+            public int behind(int n, int what);
+            public int dryBy();
+            public int larger(int butt, int w, int n);
+            public int leave(int n, int what);
+            public int spares(int butt, int n);
+            public int taps(int n);
+            public int gauged(int sheet, int butt, int what);
+            public int fine();
+            public int feed(int a, int b, int c);
+            public int trim(int n);
+            public int text();
+            public int textTold(int text, int what);
+            public int why(int key);
+            public int sheet(int sheet, int sort, int n);
+            public int mark(int sheet, int place, int v);
+            public int pour(int sheet);
+            public int reads(int sheet);
+            public int copy(int from, int place, int to, int at, int many);
+            public int lay(int slot, int thing, int k);
+            public int ask(int slot, int kind);
+            public int item(int slot, int place);
+            public int rest(int slot, int n);
+            public int tell(int v);
+            public int check(int n);
+            public int keep();
+            public int back();
+            public int count(int what);
+        }
+        """;
 
     private static final Due due = new Due();
 
@@ -24,6 +73,8 @@ public final class RulesTest {
         face();
         nested();
         constants();
+        document();
+        headings();
         source();
         room();
         due.end();
@@ -51,7 +102,7 @@ public final class RulesTest {
                 yes(m + " is private", Modifier.isPrivate(m.getModifiers()));
             }
         }
-        due.is("the public methods are those of the document", found.equals(new TreeSet<>(Arrays.asList(FACE.split(" ")))) ? 1 : 0, 1);
+        yes("the public methods are those of the document", found.equals(documentMethods()));
         for (Class<?> c : WaterButts.class.getDeclaredClasses()) {
             for (Method m : c.getDeclaredMethods()) {
                 hidden.add(m.getName());
@@ -67,7 +118,18 @@ public final class RulesTest {
                 ? Set.of("BAD", "NO", "FULL", "NONE", "NOTHING", "KIND", "INDEX", "SIZE").contains(f.getName())
                 : Modifier.isPrivate(f.getModifiers()));
             yes(f + ", static, is final", !Modifier.isStatic(f.getModifiers()) || Modifier.isFinal(f.getModifiers()));
+            yes(f + ", public, is a static int", !constant || Modifier.isStatic(f.getModifiers()) && f.getType() == int.class);
         }
+    }
+
+    /** Names with how many parameters they have. */
+    private static Set<String> documentMethods() {
+        Set<String> all = new TreeSet<>();
+        Matcher m = Pattern.compile("public int (\\w+)\\(([^)]*)\\)").matcher(FACE);
+        while (m.find()) {
+            all.add(m.group(1) + (m.group(2).isEmpty() ? 0 : m.group(2).split(",").length));
+        }
+        return all;
     }
 
     private static void nested() {
@@ -97,10 +159,36 @@ public final class RulesTest {
         }
     }
 
+    private static String code() throws IOException {
+        return Files.readString(Path.of(System.getProperty("source", "src/main/java/WaterButts.java")));
+    }
+
+    /** Each line of the document's face stands in the source as it stands there, but for what each method does. */
+    private static void document() throws IOException {
+        due.part("the document's face");
+        List<String> lines = List.of(code().split("\n"));
+        for (String line : FACE.split("\n")) {
+            yes(line.trim(), lines.contains(line) || lines.contains(line.replace(";", " {")));
+        }
+    }
+
+    /** Ahead of these calls the interface says these words. */
+    private static void headings() throws IOException {
+        due.part("terms, what the interface says ahead of calls");
+        String want = "---- butts, beds: butt told catches as turns set bed bedTold wants deal seed ---- days: rule days gallons pourDown "
+            + "---- what will be: behind dryBy larger leave spares taps gauged fine ---- texts: feed trim text textTold why "
+            + "---- sheets, slots: sheet mark pour reads copy lay ask item rest ---- rows, images: tell check keep back count ";
+        StringBuilder got = new StringBuilder();
+        Matcher m = Pattern.compile("\n    // (---- .*)|\n    public int (\\w+)\\(").matcher(code());
+        while (m.find()) {
+            got.append(m.group(1) != null ? m.group(1) + ":" : m.group(2)).append(' ');
+        }
+        yes("says them: " + got, got.toString().startsWith(want));
+    }
+
     private static void source() throws IOException {
         due.part("rules 4 to 6 and 11, the source");
-        Path file = Path.of(System.getProperty("source", "src/main/java/WaterButts.java"));
-        String code = Files.readString(file).replaceAll("(?s)/\\*.*?\\*/", " ").replaceAll("//[^\n]*", " ")
+        String code = code().replaceAll("(?s)/\\*.*?\\*/", " ").replaceAll("//[^\n]*", " ")
             .replaceAll("\"(\\\\.|[^\"\\\\])*\"", "\"\"").replaceAll("'(\\\\.|[^'\\\\])'", "' '");
         String[] never = {"throw", "throws", "try", "catch", "finally", "synchronized", "assert", "import", "package", "Object", "System",
             "equals", "hashCode", "toString", "double", "float", "volatile", "native"};
