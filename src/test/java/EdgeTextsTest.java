@@ -200,6 +200,15 @@ public final class EdgeTextsTest {
         sound(1, "!(!5+" + "!".repeat(7) + "0)+1+!!(0)");
         fault(16, "fine !(5+" + "!".repeat(8) + "0)");
         sound(0, "!(5+" + "!".repeat(7) + "0)");
+        // Behind a sign as well, where the one and the other are not as many.
+        sound(1, "!!(5+" + "!".repeat(6) + "0)");
+        fault(16, "fine !!(5+" + "!".repeat(7) + "0)");
+        sound(5, "((5+" + "!".repeat(8) + "0))");
+        fault(17, "fine ((5+" + "!".repeat(9) + "0))");
+        sound(0, "!(5*" + "(".repeat(7) + "4" + ")".repeat(8));
+        fault(16, "fine !(5*" + "(".repeat(8) + "4" + ")".repeat(9));
+        sound(0, "!!!(5<" + "(".repeat(7) + "6" + ")".repeat(8));
+        fault(18, "fine !!!(5<" + "(".repeat(8) + "6" + ")".repeat(9));
     }
 
     private static void ends() {
