@@ -19,6 +19,8 @@ public final class DocTest {
         lastCall();
         wholeNumbers();
         answersAreTold();
+        limitsApart();
+        tapeAgain();
         buttsApart();
         kindsUnderOneAnother();
         lawsOfKinds();
@@ -177,6 +179,48 @@ public final class DocTest {
             // A number that waits, a number in a SLOT, z: they may be any, these too.
             fresh().gives(all[i], "seed(" + all[i] + "); count(10)", "seed(" + all[i] + "); seed(0)").gives(all[i] % 1000, "lay(0, 3, " + all[i] + "); rest(0, 1000)");
             fresh().gives(1, "tell(" + all[i] + ")").gives(1, "keep(); tell(" + all[i] + "); check(1)");
+        }
+    }
+
+    /** So many at most of each: what there is of others leaves room for it, and is left room by it. */
+    private static void limitsApart() {
+        String butts = "deal(8)";
+        String beds = "bed(1); bed(1); bed(1); bed(1); bed(1); bed(1); bed(1); bed(1)";
+        String tape = "feed(0, 0, 0); feed(0, 0, 0); feed(0, 0, 0); feed(0, 0, 0); feed(0, 0, 0); feed(0, 0, 0); feed(0, 0, 0); feed(0, 0, 0)";
+        due.part("terms, limits apart, butts");
+        fullOfTexts().with(beds).with(60, "tell(1)").with(tape).gives(0, "butt(0, 9, 0)").gives(1, "butt(0, 9, 0); count(0)").gives(9, "butt(0, 9, 0); told(0, 1)")
+            .gives(8, "deal(8)", "deal(8); count(0)").gives(FULL, "deal(8); butt(0, 9, 0)", "bed(1)", "tell(1)", "feed(0, 0, 0)").gives(0, "deal(8); deal(1)");
+        due.part("terms, limits apart, beds");
+        fullOfTexts().with(butts).with(60, "tell(1)").with(tape).gives(0, "bed(9)").gives(1, "bed(9); count(1)").gives(9, "bed(9); bedTold(0, 0)")
+            .gives(8, beds + "; count(1)").gives(FULL, beds + "; bed(1)", "butt(0, 9, 0)");
+        due.part("terms, limits apart, texts");
+        fresh().with(butts).with(beds).with(60, "tell(1)").tape("fine 7").gives(0, "text()").gives(1, "text(); count(7)").gives(7, "text(); fine()");
+        due.part("terms, limits apart, numbers that wait");
+        fullOfTexts().with(butts).with(beds).with(tape).gives(1, "tell(5)").gives(1, "tell(5); count(8)");
+        due.part("terms, limits apart, bytes");
+        fullOfTexts().with(butts).with(beds).with(60, "tell(1)").gives(12, "feed(0, 0, 0)").gives(96, tape, tape + "; count(9)").gives(FULL, tape + "; feed(0, 0, 0)");
+        due.part("terms, limits apart, sheets and slots");
+        fullOfTexts().with(butts).with(beds).with(60, "tell(1)").with(tape).gives(24, "sheet(3, 1, 24)").gives(0, "lay(4, 1, 7)", "lay(4, 3, 9)").gives(9, "lay(4, 3, 9); rest(4, 10)").gives(8, "keep()", "keep(); back()");
+    }
+
+    private static Script fullOfTexts() {
+        Script s = fresh();
+        for (int i = 0; i < 14; i++) {
+            s.text("dry " + i);
+        }
+        return s;
+    }
+
+    /** Behind a TEXT, or a FAULT, at its very end THE TAPE takes as much as a new one. */
+    private static void tapeAgain() {
+        String[] used = {"fine 1" + "+1".repeat(45), "fine 1" + " ".repeat(90), "fine 1" + " ".repeat(89) + "+", "fine 1" + " ".repeat(89) + ")", " ".repeat(96), "$".repeat(96), ""};
+        int[] answers = {0, 0, -196, -195, -196, -100, -100};
+        for (int i = 0; i < used.length; i++) {
+            due.part("terms 4, the tape behind '" + used[i] + "'");
+            fresh().tape(used[i]).does(answers[i], "text()").tells(0, "count(9)").tells(BAD, "trim(1)").gives(12, "feed(0, 0, 0)", "feed(0, 0, 0); count(9)")
+                .tape("fine 7*3").tells(8, "count(9)").gives(Math.max(0, answers[i] + 1), "text()").gives(21, "text(); fine()");
+            fresh().tape(used[i]).does(answers[i], "text()").tape("fine 2" + "+2".repeat(45)).tells(96, "count(9)").gives(92, "text(); fine()");
+            fresh().tape(used[i]).does(answers[i], "text()").tape("fine 2" + "+2".repeat(44) + "+ ").tells(-196, "text()");
         }
     }
 
